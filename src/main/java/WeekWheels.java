@@ -13,6 +13,7 @@ public final class WeekWheels {
     private static final int MOST_HOUSES = 10;
     private static final int MOST_STILLS = 3;
     private static final int MOST_SIGHTS = 20;
+    private static final int MOST_DEEDS = 20;
     private static final int MOST_WORKS = 8;
     private static final int LONGEST_WORK = 60;
     private static final int MOST_IMAGES = 3;
@@ -171,7 +172,7 @@ public final class WeekWheels {
 
     public int next(int day) throws IndexOutOfBoundsException {
         needDay(day);
-        return wish.nthFrom(day, 1);
+        return wish.firstFrom(day);
     }
 
     public int never(int laws) throws IllegalArgumentException {
@@ -367,7 +368,7 @@ public final class WeekWheels {
         freeDays.bar(laws, others);
         int days = 0;
         for (int from = 0; from < calendar.bothTurn; from += BLOCK) {
-            days += Long.bitCount(freeDays.daysFrom(from, from) & low(calendar.bothTurn - from));
+            days += Long.bitCount(freeDays.daysFrom(from) & low(calendar.bothTurn - from));
         }
         return days;
     }
@@ -531,7 +532,11 @@ public final class WeekWheels {
 
     /** What a number leaves by another, 0 or more even of a number below 0. */
     private static int left(int number, int by) {
-        return by < 1 ? 0 : Math.floorMod(number, by);
+        if (by < 1) {
+            return 0;
+        }
+        int rest = number % by;
+        return rest < 0 ? rest + by : rest;
     }
 
     private static int commonDivisor(int a, int b) {
@@ -1043,10 +1048,10 @@ public final class WeekWheels {
         private final int[] sightAgo = new int[MOST_SIGHTS];
         private final boolean[] sightHeld = new boolean[MOST_SIGHTS];
         private int sights;
-        private final int[] deedHouse = new int[MOST_SIGHTS];
-        private final int[] deedLaw = new int[MOST_SIGHTS];
-        private final int[] deedTurns = new int[MOST_SIGHTS];
-        private final boolean[] deedHeld = new boolean[MOST_SIGHTS];
+        private final int[] deedHouse = new int[MOST_DEEDS];
+        private final int[] deedLaw = new int[MOST_DEEDS];
+        private final int[] deedTurns = new int[MOST_DEEDS];
+        private final boolean[] deedHeld = new boolean[MOST_DEEDS];
         private int deeds;
         private final int[] workDays = new int[MOST_WORKS];
         private final int[] workLaws = new int[MOST_WORKS];
@@ -1117,7 +1122,7 @@ public final class WeekWheels {
         }
 
         private int addDeed(int house, int law, int turns, boolean held) {
-            if (deeds >= MOST_SIGHTS) {
+            if (deeds >= MOST_DEEDS) {
                 return -1;
             }
             deedHouse[deeds] = house;
@@ -1139,56 +1144,70 @@ public final class WeekWheels {
         }
     }
 
-    /** Days of one kind, looked at 64 at a time: bit i tells of the i-th day behind the first. */
-    private abstract static class Kind {
-        final Calendar calendar;
+    /** Days on which none of some laws of both towns holds, looked at 64 at a time. */
+    private static final class FreeDays {
+        private final Calendar calendar;
+        private final int[] meetings = new int[LONGEST_WEEK];
+        private int laws;
+        private int otherLaws;
+        private int turn = 1;
         private int walkDay;
         private int walkEnd;
         private long walkDays;
 
-        Kind(Calendar calendar) {
+        private FreeDays(Calendar calendar) {
             this.calendar = calendar;
         }
 
-        /** Which of 64 days are such, as if no wheel stood still between them. */
-        abstract long daysFrom(int day, int turns);
+        private void bar(int newLaws, int newOthers) {
+            laws = newLaws;
+            otherLaws = newOthers;
+            turn = calendar.others.turnWith(newOthers, calendar.own.turnWith(newLaws, 1));
+        }
 
-        /** After how many days without one such there never is one any more. */
-        abstract int patienceFrom(int day);
+        /** Which of the 64 days from some turns on are free: bit i tells of the i-th behind the first. */
+        private long daysFrom(int turns) {
+            return ~(calendar.own.someHeldFrom(laws, turns) | calendar.others.someHeldFrom(otherLaws, turns));
+        }
 
-        /** The n-th such day from one on; NONE if there is none up to the last. */
-        final int nthFrom(int from, int n) {
+        /** In so many days the wheels come to every place, even with all stills among them. */
+        private int patience() {
+            return turn + MOST_STILLS;
+        }
+
+        /** The n-th free day from one on; NONE if there is none up to the last. */
+        private int nthFrom(int from, int n) {
             int missing = n;
-            int patience = patienceFrom(from);
+            int patience = patience();
             int length = 1;
             for (int day = from; day <= LAST_DAY && patience > 0; day += length) {
                 length = calendar.stretchFrom(day);
-                long days = daysFrom(day, calendar.turnsOn(day)) & low(length);
+                long days = daysFrom(calendar.turnsOn(day)) & low(length);
                 int there = Long.bitCount(days);
                 if (there >= missing) {
                     return day + nthLowest(days, missing);
                 }
                 missing -= there;
-                patience = there > 0 ? patienceFrom(day) : patience - length;
+                patience = there > 0 ? patience() : patience - length;
             }
             return NONE;
         }
 
-        /** Such days from one on are then told one by one by walkOn. */
-        final void walkFrom(int day) {
+        /** Free days from one on are then told one by one by walkOn. */
+        private void walkFrom(int day) {
             walkDay = day;
             walkEnd = day;
             walkDays = 0;
         }
 
-        /** The next such day; NONE if there is none up to the last. */
-        final int walkOn() {
+        /** The next free day; NONE if there is none up to the last. */
+        private int walkOn() {
             int length = 1;
-            int patience = patienceFrom(walkEnd);
+            int patience = patience();
             for (; walkDays == 0 && walkEnd <= LAST_DAY && patience > 0; patience -= length) {
                 length = calendar.stretchFrom(walkEnd);
                 walkDay = walkEnd;
-                walkDays = daysFrom(walkDay, calendar.turnsOn(walkDay)) & low(length);
+                walkDays = daysFrom(calendar.turnsOn(walkDay)) & low(length);
                 walkEnd = walkDay + length;
             }
             if (walkDays == 0) {
@@ -1199,14 +1218,14 @@ public final class WeekWheels {
             return found;
         }
 
-        /** The n-th such day back from one, but none ahead of a bound; NONE without. */
-        final int nthBack(int to, int n, int bound) {
+        /** The n-th free day back from one, but none ahead of a bound; NONE without. */
+        private int nthBack(int to, int n, int bound) {
             int missing = n;
             int length = 1;
             for (int day = to; day >= bound; day -= length) {
                 length = calendar.stretchTo(day);
                 int first = day - length + 1;
-                long days = daysFrom(first, calendar.turnsOn(first)) & low(length);
+                long days = daysFrom(calendar.turnsOn(first)) & low(length);
                 int there = Long.bitCount(days);
                 if (there >= missing) {
                     int found = first + nthLowest(days, there - missing + 1);
@@ -1216,33 +1235,6 @@ public final class WeekWheels {
             }
             return NONE;
         }
-    }
-
-    /** Days on which none of some laws of both towns holds. */
-    private static final class FreeDays extends Kind {
-        private final int[] meetings = new int[LONGEST_WEEK];
-        private int laws;
-        private int otherLaws;
-        private int turn = 1;
-
-        private FreeDays(Calendar calendar) {
-            super(calendar);
-        }
-
-        private void bar(int newLaws, int newOthers) {
-            laws = newLaws;
-            otherLaws = newOthers;
-            turn = calendar.others.turnWith(newOthers, calendar.own.turnWith(newLaws, 1));
-        }
-
-        long daysFrom(int day, int turns) {
-            return ~(calendar.own.someHeldFrom(laws, turns) | calendar.others.someHeldFrom(otherLaws, turns));
-        }
-
-        /** So many days show every place of the wheels, even with all stills among them. */
-        int patienceFrom(int day) {
-            return turn + MOST_STILLS;
-        }
 
         /** The first day from one on with which so many free days begin; NONE without. */
         private int firstRow(int from, int many) {
@@ -1251,7 +1243,7 @@ public final class WeekWheels {
             int length = 1;
             for (int day = from; day <= end; day += length) {
                 length = calendar.stretchFrom(day);
-                long days = daysFrom(day, calendar.turnsOn(day)) & low(length);
+                long days = daysFrom(calendar.turnsOn(day)) & low(length);
                 int before = row;
                 int at = 0;
                 for (int part = 0; part < BLOCK && at < length; part++) {
@@ -1300,7 +1292,7 @@ public final class WeekWheels {
                 meetings[day] = 0;
             }
             for (int from = 0; from < turn; from += BLOCK) {
-                long barred = ~daysFrom(from, from) & low(turn - from);
+                long barred = ~daysFrom(from) & low(turn - from);
                 for (int day = 0; day < week && day < meetings.length; day++) {
                     meetings[day] += Long.bitCount(barred & daysLeaving(day, week, beat, from));
                 }
@@ -1309,7 +1301,7 @@ public final class WeekWheels {
     }
 
     /** Days on which a wish holds: its parts stand in the order in which they are worked out. */
-    private static final class Wish extends Kind {
+    private static final class Wish {
         private static final int LAW = 0;
         private static final int MANY = 1;
         private static final int DAY = 2;
@@ -1320,6 +1312,7 @@ public final class WeekWheels {
         private static final int OR = 7;
         private static final int ROOM = 100;
 
+        private final Calendar calendar;
         private final State state;
         private final int[] sort = new int[ROOM];
         private final int[] first = new int[ROOM];
@@ -1331,7 +1324,7 @@ public final class WeekWheels {
         private int turn = 1;
 
         private Wish(Calendar calendar, State state) {
-            super(calendar);
+            this.calendar = calendar;
             this.state = state;
         }
 
@@ -1372,7 +1365,8 @@ public final class WeekWheels {
             }
         }
 
-        long daysFrom(int day, int turns) {
+        /** Of the 64 days from one on, as if no wheel stood still between them, those on which the wish holds. */
+        private long daysFrom(int day, int turns) {
             if (counts) {
                 calendar.own.tally(turns);
             }
@@ -1403,8 +1397,17 @@ public final class WeekWheels {
         }
 
         /** A day's number goes on behind a still, wheels do not: only behind the last all goes in turns. */
-        int patienceFrom(int day) {
-            return Math.max(calendar.settledDay() - day, 0) + turn;
+        private int firstFrom(int from) {
+            int end = Math.min(Math.max(from, calendar.settledDay()) + turn, LAST_DAY);
+            int length = 1;
+            for (int day = from; day <= end; day += length) {
+                length = calendar.stretchFrom(day);
+                long days = daysFrom(day, calendar.turnsOn(day)) & low(length);
+                if (days != 0) {
+                    return day + lowest(days);
+                }
+            }
+            return NONE;
         }
     }
 
