@@ -1550,7 +1550,6 @@ public final class WeekWheels {
             free.walkFrom(from);
             int best = NONE;
             int fewest = LAST_DAY + 2;
-            int before = NONE;
             for (int found = 0; found <= LONGEST_TURN + LONGEST_WORK; found++) {
                 int day = free.walkOn();
                 if (day == NONE || days < 1 || days > ring.length) {
@@ -1559,15 +1558,14 @@ public final class WeekWheels {
                 ring[found % days] = day;
                 if (found >= days - 1) {
                     int oldest = ring[(found + 1) % days];
-                    int begin = oldest > lastBegin && before != lastBegin ? lastBegin : oldest;
-                    if (begin <= lastBegin && day - begin + 1 < fewest) {
+                    int begin = Math.min(oldest, lastBegin);
+                    if (day - begin + 1 < fewest) {
                         best = begin;
                         fewest = day - begin + 1;
                     }
                     if (oldest > lastBegin || fewest == days) {
                         return best;
                     }
-                    before = oldest;
                 }
             }
             return best;

@@ -472,6 +472,16 @@ public final class WeekWheelsPromises {
         WeekWheels y = town("law 2 0;still 99999;");
         ask(y, "law 0 and day 2 1");
         due("only behind the still", () -> y.next(0), 100_001);
+        ask(n, "day 65 64");
+        due("one day beyond 64", () -> n.next(0), 64);
+        ask(n, "day 99 98 or day 98 97");
+        due("more days beyond 64", () -> n.next(0), 97);
+        due("the next", () -> n.next(98), 98);
+        due("the next", () -> n.next(99), 195);
+        WeekWheels z = town("law 2 0;still 5;");
+        ask(z, "law 0 and day 99 5");
+        due("on the last day of the turn behind the still", () -> z.next(0), 203);
+        due("on the last day of the turn", () -> z.next(204), 401);
         ask(y, "law 0 and day 2 0");
         due("only ahead of the still", () -> y.next(99_998), 99_998);
         due("only ahead of the still", () -> y.next(99_999), -1);
@@ -757,6 +767,8 @@ public final class WeekWheelsPromises {
         y.work(1, 1);
         due("within a turn all is barred by the still: the last of it", () -> y.begun(0, 10), 11);
         due("one more", () -> y.begun(0, 11), 12);
+        due("on the last day", () -> x.done(4, LAST), LAST);
+        due("on the last day", () -> x.begun(4, LAST), LAST);
         promise = 35;
         due("rest", x::rest, 8);
         due("no work", () -> x.done(0, 0), ELEMENT);
@@ -804,6 +816,11 @@ public final class WeekWheelsPromises {
         y.work(1, 60);
         due("all wait for the third", () -> y.soonest(5, 0), 9);
         due("so the first two come by number, though the second could be done ahead", () -> y.soonest(5, 1), 12);
+        WeekWheels z = town("law 7 0;still 6;");
+        z.work(1, 0);
+        z.work(1, 1);
+        due("done on the day behind a still", () -> z.soonest(6, 0), 7);
+        due("by number", () -> z.soonest(6, 1), 1);
     }
 
     static void thieves() {
@@ -891,6 +908,17 @@ public final class WeekWheelsPromises {
         due("none left", x::restore, -1);
         due("all stays then", () -> x.sums(2), 1);
         due("refusals are kept by no image", () -> x.status(2), 0);
+        WeekWheels y = town("law 5 4;law 7 6;house;house;house;");
+        y.did(2, 1, 3, true);
+        y.did(1, 0, 3, false);
+        y.image();
+        y.forget();
+        y.did(0, 0, 5, false);
+        y.did(0, 0, 6, false);
+        y.restore();
+        due("what a house did is that house's again", () -> y.slipped(0, 0), 12);
+        due("what a house did is that house's again", () -> y.slipped(1, 0), 4 + 7);
+        due("what a house did is that house's again", () -> y.slipped(2, 1), 103);
     }
 
     static void counts() {
