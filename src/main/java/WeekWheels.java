@@ -821,9 +821,12 @@ public final class WeekWheels {
         /** Laws of which every two can be together can all be so: their days solve the same remainders. */
         private int greatestSet() {
             int greatest = 0;
-            for (int set = 0; set <= all(size); set++) {
-                if (Integer.bitCount(set) > Integer.bitCount(greatest) && allMeet(set)) {
+            int many = 0;
+            int whole = all(size);
+            for (int set = 0; set <= whole; set++) {
+                if (Integer.bitCount(set) > many && allMeet(set)) {
                     greatest = set;
+                    many = Integer.bitCount(set);
                 }
             }
             return greatest;
