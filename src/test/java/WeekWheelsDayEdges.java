@@ -275,6 +275,21 @@ public final class WeekWheelsDayEdges {
         Due.due(z, "next of the longest turn, behind it", y -> y.next(999_949_950), -1);
     }
 
+    // Promise 15, by Terms: "NEXT: the first DAY from one on (to the last one) on which the WISH holds."
+    static void nextOnTheLastDayOfATurnBehindAStill() {
+        // of 65 days behind the still (5 of the law, 13 of the wish) it holds on the last alone, on none ahead of it
+        WeekWheels x = Due.town("law 5 4;still 5;");
+        Due.ask(x, "law 0 and day 13 5");
+        Due.due(x, "next(0)", y -> y.next(0), 70);
+        Due.due(x, "next(6)", y -> y.next(6), 70);
+        Due.due(x, "next(70)", y -> y.next(70), 70);
+        Due.due(x, "next(71)", y -> y.next(71), 135);
+        WeekWheels z = Due.town("law 2 0;still 5;");
+        Due.ask(z, "law 0 and day 99 5");
+        Due.due(z, "next(0): of 198 days", y -> y.next(0), 203);
+        Due.due(z, "next(204): of 198 days", y -> y.next(204), 401);
+    }
+
     // Promise 15: "NEXT; NONE: never."
     static void nextNever() {
         WeekWheels x = Due.town("law 5 4;law 5 3;still 3;still 7;");

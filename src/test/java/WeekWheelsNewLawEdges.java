@@ -52,7 +52,12 @@ public final class WeekWheelsNewLawEdges {
         Due.keeps(() -> Due.town("law 24 22;"), "meeting(1): (2, 0) meets it as often", x -> x.meeting(1), 200);
         Due.keeps(() -> Due.town("law 3 0;law 3 1;"), "meeting(3): a third by 2, by 3 too, so the first", x -> x.meeting(3), 200);
         Due.keeps(() -> Due.town("law 5 4;law 5 4;"), "meeting(3): a day counts once", x -> x.meeting(3), 504);
+        Due.keeps(() -> Due.town("law 5 4;other 5 0;other 2 0;"), "meeting(1): the other town is none of it", x -> x.meeting(1), 504);
         Due.keeps(() -> Due.town(LONGEST), "meeting(31): those of 4, 3 and more", x -> x.meeting(31), 201);
+        // days behind the turn's end would make others the most
+        Due.keeps(() -> Due.town("law 16 1;law 20 6;"), "meeting(3), a turn of 80", x -> x.meeting(3), 201);
+        Due.keeps(() -> Due.town("law 15 3;law 9 8;law 10 8;"), "meeting(7), a turn of 90", x -> x.meeting(7), 200);
+        Due.keeps(() -> Due.town("law 16 10;law 16 15;law 13 9;"), "meeting(7), a turn of 208", x -> x.meeting(7), 200);
     }
 
     // Promise 23: "WEEKS told as digits to the base 100 (the first the highest; 2 to 6 of them): the DAYS likewise; NONE: there are none.
@@ -88,7 +93,10 @@ public final class WeekWheelsNewLawEdges {
             {20_202_020_202L, 2, -1L}, {20_202_020_202L, 3, 10_101L}, {60_606_060_606L, 1, 102_030_405L},
             {50_505_050_505L, 1, -1L}, {50_505_050_505L, 2, 1_010_202L}, {242_424_242_424L, 1, 102_030_405L},
             {204_081_616L, 1, 1_030_715L}, {20_408_161_616L, 1, -1L}, {20_408_161_624L, 1, -1L}, {1_616_080_402L, 1, 8_040_201L},
-            {1_602L, 1, 1L}, {2_324L, 2, 0L}, {40_402L, 1, 201L}};
+            {1_602L, 1, 1L}, {2_324L, 2, 0L}, {40_402L, 1, 201L}, {4_060_912L, 2, 101L}, {4_060_812L, 1, 10_203L}, {406_091_210L, 2, 10_201L},
+            {2_030_406L, 2, 101L}, {20_304_060_809L, 3, 10_101L}, {40_406_060_909L, 2, 100_010_205L}, {20_406_081_012L, 4, 101L},
+            {20_406_081_012L, 2, 1_020_103L}, {20_203_030_505L, 3, 100_010_001L}, {2_030_507L, 3, -1L}, {2_030_507L, 4, 0L},
+            {3_061_224L, 1, 10_204L}, {24_120_603L, 1, 10_302L}, {303_061_224L, 1, 1_020_511L}};
         for (Object[] row : rows) {
             long told = (Long) row[0];
             int n = (Integer) row[1];

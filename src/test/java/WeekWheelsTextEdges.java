@@ -297,8 +297,32 @@ public final class WeekWheelsTextEdges {
         Due.keeps(() -> Due.town("other 5 0;"), "told(4): 1 without", y -> y.told(4), 1);
         Due.keeps(() -> Due.town("other 5 0;"), "told(5)", y -> y.told(5), 5);
         Due.keeps(() -> Due.town("law 2 0;"), "told(4)", y -> y.told(4), 2);
-        // the product of the weeks alone would go beyond every int
+    }
+
+    // Promise 3, by Terms: "The WHOLE TURN (the least number that all W of LAWS divide; 1 without), with those of the other town,
+    // is 100,000 at most"
+    static void wholeTurnFarBeyond100000() {
+        // some of these turns go beyond what an int holds, and by chance leave a number below 0 or a small one
         Due.calendar("law24 0;law23 0;law22 0;law21 0;law20 0;law19 0;law18 0;law17 0;law16 0;law15 0;law14 0;law13 0;", -6, 96);
+        int[] weeks = {23, 19, 17, 24, 13, 11, 9, 7, 5, 16};
+        StringBuilder text = new StringBuilder();
+        for (int i = 0; i < weeks.length; i++) {
+            text.append("law").append(weeks[i]).append(" 0;");
+            boolean fits = i < 3;
+            Due.calendar(text.toString(), fits ? i + 1 : -6, fits ? -1 : text.length());
+        }
+    }
+
+    // Promise 4, by Terms: "so it is with all A of a WISH, too."
+    static void wholeTurnWithAWishFarBeyond100000() {
+        // some of these turns go beyond what a long holds, and by chance leave a number below 0 or a small one
+        int[] divisors = {97, 89, 83, 79, 73, 71, 67, 64, 61, 59, 53, 47, 43, 41, 37, 31, 29, 27, 25, 23};
+        StringBuilder text = new StringBuilder();
+        for (int i = 0; i < divisors.length; i++) {
+            text.append(i == 0 ? "" : "or ").append("day").append(divisors[i]).append(" 0");
+            boolean fits = i < 2;
+            Due.wish("law 2 0;", text.toString(), fits ? 1 : -6, fits ? -1 : text.length());
+        }
     }
 
     // Promise 4, by Terms: "so it is with all A of a WISH, too."
@@ -397,6 +421,13 @@ public final class WeekWheelsTextEdges {
         Due.due(x, "such(98)", y -> y.such(98), true);
         Due.due(x, "such(99)", y -> y.such(99), false);
         Due.due(x, "such(197)", y -> y.such(197), true);
+        for (int left = 62; left <= 66; left++) {
+            int r = left;
+            Due.ask(x, "day 99 " + r);
+            Due.due(x, "such(0) of day 99 " + r, y -> y.such(0), false);
+            Due.due(x, "next(0) of day 99 " + r, y -> y.next(0), r);
+            Due.due(x, "next of day 99 " + r + " behind it", y -> y.next(r + 1), r + 99);
+        }
         WeekWheels z = Due.town("still 0;");
         Due.ask(z, "day 2 0");
         Due.due(z, "such(1): by the DAY, not by turns", y -> y.such(1), false);
@@ -442,7 +473,11 @@ public final class WeekWheelsTextEdges {
     // Promise 4, by Terms: "WORDS: small letters, as many as stand there"
     static void wordsAreAllSmallLettersThatStandThere() {
         Due.calendar("law5 4;", 1, -1);
-        Due.calendar("lawx 5 4;", -9, 0);
+        for (char letter = 'a'; letter <= 'z'; letter++) {
+            Due.calendar("law" + letter + " 5 4;", -9, 0);
+            Due.calendar(letter + "law 5 4;", -9, 0);
+            Due.wish(TOWN, "law 0 or" + letter + " law 1", -9, 6);
+        }
         Due.calendar("la 5 4;", -9, 0);
         Due.calendar("LAW 5 4;", -9, 0);
         Due.calendar("lawL 5 4;", -9, 3);
@@ -642,6 +677,10 @@ public final class WeekWheelsTextEdges {
         WeekWheels x = Due.busy();
         Due.tell(x, "law 2 1;house;");
         Due.due(x, "restore(): no images", WeekWheels::restore, -1);
+        WeekWheels slips = Due.town("law 5 4;law 7 6;house;house;slip 0 1 6;slip 1 0 4;");
+        slips.turn(1, 1, 3);
+        Due.tell(slips, "law 5 4;law 7 6;house;house;");
+        Due.same("all that later calls show", Due.shown(slips), Due.shown(Due.town("law 5 4;law 7 6;house;house;")));
         Due.due(x, "forget()", WeekWheels::forget, 0);
         Due.due(x, "rest()", WeekWheels::rest, 0);
     }
@@ -664,6 +703,19 @@ public final class WeekWheelsTextEdges {
             Due.same("nothing is refused by a fault", x.status(0) + x.status(1) + x.status(2), 0);
             Due.same("all that later calls show", shownButTheFault(x), shownButTheFault(Due.busy()));
         }
+    }
+
+    // Promise 3: "or the FAULT less 10 (all stays)"
+    static void calendarWithAFaultLeavesNothingForTheNext() {
+        WeekWheels x = new WeekWheels();
+        Due.tell(x, "law 5 4;law 7 6;house;house;slip 0 1 6;slip 1 0 4;other 3 2;still 0;still 1;still 2;still 3;");
+        Due.tell(x, "law 5 4;law 7 6;house;house;");
+        Due.same("all that later calls show", Due.shown(x), Due.shown(Due.town("law 5 4;law 7 6;house;house;")));
+        WeekWheels z = new WeekWheels();
+        Due.ask(z, "many 1 or day 5 5");
+        Due.ask(z, "day 5 4");
+        Due.due(z, "next(0)", y -> y.next(0), 4);
+        Due.due(z, "next(5)", y -> y.next(5), 9);
     }
 
     static WeekWheels busyWithBytes() {

@@ -81,6 +81,10 @@ public final class WeekWheelsWorkEdges {
         Due.keeps(() -> worker("law 5 1;still 0;", 3, 1), "done(0, 0) with a still", x -> x.done(0, 0), 3);
         Due.keeps(() -> worker("law 5 1;still 1;", 2, 1), "done(0, 0): barred on a still and behind it", x -> x.done(0, 0), 3);
         Due.keeps(() -> worker("law2 0;".repeat(12), 1, 4095), "done(0, 0): barred by twelve", x -> x.done(0, 0), 1);
+        String others = "law 5 4;other 5 3;other 2 0;";
+        Due.keeps(() -> worker(others, 4, 1), "done(0, 0): the other town bars nothing", x -> x.done(0, 0), 3);
+        Due.keeps(() -> worker(others, 4, 1), "begun(0, 1): the other town bars nothing", x -> x.begun(0, 1), 5);
+        Due.keeps(() -> worker(others, 4, 1, 1, 0), "soonest(0, 1): the other town bars nothing", x -> x.soonest(0, 1), 1);
     }
 
     // Promise 33: "BEGUN best; NONE: it never is DONE."
@@ -162,6 +166,33 @@ public final class WeekWheelsWorkEdges {
         Due.keeps(WeekWheelsWorkEdges::eightWorks, "soonest(0, 1), all alike", x -> x.soonest(0, 1), 1_234_567);
         Due.keeps(() -> worker("", 60, 0, 60, 0, 60, 0, 60, 0, 60, 0, 60, 0, 60, 0, 60, 0), "soonest(0, 0)", x -> x.soonest(0, 0), 479);
         Due.keeps(() -> worker("law 5 4;", 1, 0), "soonest(4, 1) of one: its number is 0", x -> x.soonest(4, 1), 0);
+    }
+
+    // Promise 34, by Terms: "each from the DAY behind the one DONE"
+    static void soonestFromTheDayBehindTheOneDone() {
+        Due.keeps(() -> worker("law 2 0;", 1, 1, 1, 0), "soonest(0, 0)", x -> x.soonest(0, 0), 1);
+        Due.keeps(() -> worker("law 2 0;", 1, 1, 1, 0), "soonest(0, 1): the first waits for a day", x -> x.soonest(0, 1), 10);
+        Due.keeps(() -> worker("law 2 0;", 1, 1, 1, 0), "soonest(1, 0)", x -> x.soonest(1, 0), 2);
+        Due.keeps(() -> worker("law 2 0;", 1, 1, 1, 0), "soonest(1, 1)", x -> x.soonest(1, 1), 1);
+        // two that can be done on one day of eight alone: not both on the same
+        Due.keeps(() -> worker(EIGHTHS, 1, 254, 1, 254, 1, 0), "soonest(0, 0)", x -> x.soonest(0, 0), 8);
+        Due.keeps(() -> worker(EIGHTHS, 1, 254, 1, 254, 1, 0), "soonest(0, 1): 021", x -> x.soonest(0, 1), 21);
+        Due.keeps(() -> worker(EIGHTHS, 1, 254, 1, 254, 1, 0), "soonest(1, 1): 201 is as soon, but later by number", x -> x.soonest(1, 1), 21);
+        Due.keeps(() -> worker(EIGHTHS, 1, 254, 1, 254, 1, 0), "soonest(1, 0)", x -> x.soonest(1, 0), 16);
+    }
+
+    // Promise 34, by Terms: "each from the DAY behind the one DONE"
+    static void soonestOverAStill() {
+        Due.keeps(() -> worker("law 7 0;still 6;", 1, 0, 1, 1), "soonest(6, 0)", x -> x.soonest(6, 0), 7);
+        Due.keeps(() -> worker("law 7 0;still 6;", 1, 0, 1, 1), "soonest(6, 1)", x -> x.soonest(6, 1), 1);
+        Due.keeps(() -> worker("law 7 0;still 6;", 1, 0, 1, 1), "soonest(7, 0): the barred day is 8", x -> x.soonest(7, 0), 8);
+        Due.keeps(() -> worker("law 7 0;still 6;", 1, 0, 1, 1), "soonest(7, 1)", x -> x.soonest(7, 1), 10);
+        Due.keeps(() -> worker("law 7 0;still 6;", 1, 1, 1, 0), "soonest(8, 1): the barred day is 8, not 7", x -> x.soonest(8, 1), 10);
+        Due.keeps(() -> worker("law 7 0;still 7;", 1, 1, 1, 0), "soonest(7, 0): barred on 7 and on 8", x -> x.soonest(7, 0), 9);
+        Due.keeps(() -> worker("law 7 0;still 7;", 1, 1, 1, 0), "soonest(7, 1)", x -> x.soonest(7, 1), 10);
+        Due.keeps(() -> worker("law 7 0;still 7;", 1, 1, 2, 0), "soonest(7, 1)", x -> x.soonest(7, 1), 10);
+        Due.keeps(() -> worker("law 7 0;still 7;", 1, 1, 3, 0), "soonest(7, 1): 789 and 10, or 9 and 10 to 12", x -> x.soonest(7, 1), 10);
+        Due.keeps(() -> worker("law 7 0;still 7;", 1, 1, 3, 0), "soonest(9, 1)", x -> x.soonest(9, 1), 1);
     }
 
     // Promise 35: "All WORKS go: how many."
