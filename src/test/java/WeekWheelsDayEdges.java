@@ -401,6 +401,13 @@ public final class WeekWheelsDayEdges {
         Due.keeps(() -> Due.town("law2 0;".repeat(12)), "count(12)", x -> x.count(12), 1);
         Due.keeps(() -> Due.town("law2 0;".repeat(12)), "count(11)", x -> x.count(11), 0);
         Due.keeps(() -> Due.town("law2 0;".repeat(12)), "count(0)", x -> x.count(0), 1);
+        // of 210 days: on even ones eight hold and those of 3, 5 and 7, on odd ones those alone
+        int[] days = {48, 44, 12, 1, 0, 0, 0, 0, 48, 44, 12, 1, 0};
+        WeekWheels x = Due.town("law2 0;".repeat(8) + "law3 0;law5 0;law7 0;");
+        for (int i = 0; i <= 12; i++) {
+            int k = i;
+            Due.due(x, "count(" + k + ")", y -> y.count(k), days[k]);
+        }
     }
 
     // Promise 19, by Terms: "COUNT k: of a WHOLE TURN (as if none was still) the DAYS on which just k LAWS hold."
@@ -426,6 +433,14 @@ public final class WeekWheelsDayEdges {
         Due.keeps(() -> Due.town("law 24 0;"), "row(0, 23)", x -> x.row(0, 23), 1);
         Due.keeps(() -> Due.town("law 24 0;"), "row(0, 24): there is none", x -> x.row(0, 24), -1);
         Due.keeps(() -> Due.town("law 2 0;law 2 1;"), "row(0, 1): there is none", x -> x.row(0, 1), -1);
+        for (int week = 2; week <= 24; week++) {
+            int w = week;
+            WeekWheels x = Due.town("law " + w + " " + (w - 1) + ";");
+            Due.due(x, "row(0, W less 1) of W " + w, y -> y.row(0, w - 1), 0);
+            Due.due(x, "row(1, W less 1) of W " + w, y -> y.row(1, w - 1), w);
+            Due.due(x, "row(0, W) of W " + w + ": there is none", y -> y.row(0, w), -1);
+            Due.due(x, "row(W less 1, 1) of W " + w, y -> y.row(w - 1, 1), w);
+        }
         Due.keeps(() -> Due.town("law 5 2;"), "row(3, 4): over the end of a turn", x -> x.row(3, 4), 3);
         Due.keeps(() -> Due.town("law 5 2;"), "row(4, 4): the next one", x -> x.row(4, 4), 8);
         Due.keeps(() -> Due.town("other 2 0;"), "row(0, 99): the other town is none of it", x -> x.row(0, 99), 0);

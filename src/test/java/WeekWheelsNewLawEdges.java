@@ -54,6 +54,11 @@ public final class WeekWheelsNewLawEdges {
         Due.keeps(() -> Due.town("law 5 4;law 5 4;"), "meeting(3): a day counts once", x -> x.meeting(3), 504);
         Due.keeps(() -> Due.town("law 5 4;other 5 0;other 2 0;"), "meeting(1): the other town is none of it", x -> x.meeting(1), 504);
         Due.keeps(() -> Due.town(LONGEST), "meeting(31): those of 4, 3 and more", x -> x.meeting(31), 201);
+        Due.keeps(() -> Due.town("law 14 12;law 23 16;law 3 1;"), "meeting(7)", x -> x.meeting(7), 301);
+        Due.keeps(() -> Due.town("law 7 2;law 11 8;law 5 2;"), "meeting(7)", x -> x.meeting(7), 502);
+        Due.keeps(() -> Due.town("law 7 5;law 21 4;"), "meeting(3)", x -> x.meeting(3), 705);
+        Due.keeps(() -> Due.town("law 17 5;law 19 14;"), "meeting(3)", x -> x.meeting(3), 1705);
+        Due.keeps(() -> Due.town("law 17 11;law 13 8;"), "meeting(3)", x -> x.meeting(3), 1308);
         // days behind the turn's end would make others the most
         Due.keeps(() -> Due.town("law 16 1;law 20 6;"), "meeting(3), a turn of 80", x -> x.meeting(3), 201);
         Due.keeps(() -> Due.town("law 15 3;law 9 8;law 10 8;"), "meeting(7), a turn of 90", x -> x.meeting(7), 200);
@@ -101,6 +106,10 @@ public final class WeekWheelsNewLawEdges {
             long told = (Long) row[0];
             int n = (Integer) row[1];
             Due.keeps(WeekWheels::new, "weeks(" + told + ", " + n + ")", x -> x.weeks(told, n), row[2]);
+        }
+        WeekWheels all = new WeekWheels();
+        for (Object[] row : rows) {
+            Due.due(all, "weeks(" + row[0] + ", " + row[1] + ") behind others", x -> x.weeks((Long) row[0], (Integer) row[1]), row[2]);
         }
     }
 

@@ -478,7 +478,12 @@ public final class WeekWheelsTextEdges {
             Due.calendar(letter + "law 5 4;", -9, 0);
             Due.wish(TOWN, "law 0 or" + letter + " law 1", -9, 6);
         }
-        Due.calendar("la 5 4;", -9, 0);
+        for (String word : new String[] {"law 5 4;", "other 5 4;", "house;", "still 1;"}) {
+            for (int i = 0; i < word.length() && Character.isLetter(word.charAt(i)); i++) {
+                Due.calendar(word.substring(0, i) + "z" + word.substring(i + 1), -9, 0);
+                Due.calendar(word.substring(0, i) + word.substring(i + 1), -9, 0);
+            }
+        }
         Due.calendar("LAW 5 4;", -9, 0);
         Due.calendar("lawL 5 4;", -9, 3);
         Due.calendar("houselaw 5 4;", -9, 0);
@@ -667,6 +672,36 @@ public final class WeekWheelsTextEdges {
         Due.due(x, "sums(4): empty then", y -> y.sums(4), 0);
     }
 
+    // Promise 3: "The first n bytes of the TAPE (empty then) are the CALENDAR"
+    static void calendarLooksAtNoByteBehindTheFirstN() {
+        String[] texts = {"houses;", "house;?", "law 2 11;", "law 2 1;x", "law 2 1 ;", "still 99999;"};
+        int[] bytes = {5, 6, 7, 8, 7, 11};
+        int[] answers = {-9, 0, -9, 1, -9, -9};
+        int[] places = {5, -1, 7, -1, 7, 11};
+        for (int i = 0; i < texts.length; i++) {
+            WeekWheels x = new WeekWheels();
+            int n = bytes[i];
+            Due.feed(x, texts[i]);
+            Due.due(x, "calendar(" + n + ") of '" + texts[i] + "'", y -> y.calendar(n), answers[i]);
+            Due.due(x, "fault()", WeekWheels::fault, places[i]);
+        }
+    }
+
+    // Promise 4: "Likewise the WISH (n to 200): 1."
+    static void wishLooksAtNoByteBehindTheFirstN() {
+        String[] texts = {"law 12", "law 1?", "law 1 orx", "[law 1]", "day 9 88"};
+        int[] bytes = {5, 5, 8, 6, 7};
+        int[] answers = {1, 1, -9, -9, 1};
+        int[] places = {-1, -1, 8, 6, -1};
+        for (int i = 0; i < texts.length; i++) {
+            WeekWheels x = Due.town(TOWN);
+            int n = bytes[i];
+            Due.feed(x, texts[i]);
+            Due.due(x, "wish(" + n + ") of '" + texts[i] + "'", y -> y.wish(n), answers[i]);
+            Due.due(x, "fault()", WeekWheels::fault, places[i]);
+        }
+    }
+
     // Promise 3: "(no WISH, nothing SEEN, done; no WORKS, IMAGES)"
     static void calendarBeginsAnew() {
         for (String text : new String[] {"", "law 2 1;house;"}) {
@@ -677,7 +712,7 @@ public final class WeekWheelsTextEdges {
         WeekWheels x = Due.busy();
         Due.tell(x, "law 2 1;house;");
         Due.due(x, "restore(): no images", WeekWheels::restore, -1);
-        WeekWheels slips = Due.town("law 5 4;law 7 6;house;house;slip 0 1 6;slip 1 0 4;");
+        WeekWheels slips = Due.town("law 5 4;law 7 6;house;house;slip 0 0 3;slip 0 1 6;slip 1 0 4;");
         slips.turn(1, 1, 3);
         Due.tell(slips, "law 5 4;law 7 6;house;house;");
         Due.same("all that later calls show", Due.shown(slips), Due.shown(Due.town("law 5 4;law 7 6;house;house;")));

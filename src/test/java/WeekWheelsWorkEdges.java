@@ -85,6 +85,7 @@ public final class WeekWheelsWorkEdges {
         Due.keeps(() -> worker(others, 4, 1), "done(0, 0): the other town bars nothing", x -> x.done(0, 0), 3);
         Due.keeps(() -> worker(others, 4, 1), "begun(0, 1): the other town bars nothing", x -> x.begun(0, 1), 5);
         Due.keeps(() -> worker(others, 4, 1, 1, 0), "soonest(0, 1): the other town bars nothing", x -> x.soonest(0, 1), 1);
+        Due.keeps(() -> worker("law 2 0;other 2 1;", 1, 1, 1, 0), "soonest(0, 1): nor in another order", x -> x.soonest(0, 1), 10);
     }
 
     // Promise 33: "BEGUN best; NONE: it never is DONE."
@@ -110,6 +111,11 @@ public final class WeekWheelsWorkEdges {
         Due.keeps(() -> worker("law 24 0;", 24, 1), "begun(0, 5): the first", x -> x.begun(0, 5), 5);
         Due.keeps(() -> worker("law 24 0;", 60, 0), "begun(0, 24): barred by none", x -> x.begun(0, 24), 24);
         Due.keeps(() -> worker("law 2 0;", 1, 1), "begun(0, 2)", x -> x.begun(0, 2), 3);
+        WeekWheels both = worker("law 24 0;law 5 0;", 23, 1, 4, 2);
+        Due.due(both, "begun(0, 2)", x -> x.begun(0, 2), 25);
+        Due.due(both, "begun(1, 9) behind another", x -> x.begun(1, 9), 11);
+        Due.due(both, "begun(1, 100) behind another", x -> x.begun(1, 100), 101);
+        Due.due(both, "begun(0, 0) behind another", x -> x.begun(0, 0), 1);
         // three stills make a longer row, which only a turn that reaches it finds
         Due.keeps(() -> worker("law 5 0;still 21;still 22;still 23;", 7, 1), "begun(0, 17)", x -> x.begun(0, 17), 21);
         Due.keeps(() -> worker("law 5 0;still 21;still 22;still 23;", 7, 1), "begun(0, 16): none is better than the first", x -> x.begun(0, 16), 16);
@@ -179,6 +185,67 @@ public final class WeekWheelsWorkEdges {
         Due.keeps(() -> worker(EIGHTHS, 1, 254, 1, 254, 1, 0), "soonest(0, 1): 021", x -> x.soonest(0, 1), 21);
         Due.keeps(() -> worker(EIGHTHS, 1, 254, 1, 254, 1, 0), "soonest(1, 1): 201 is as soon, but later by number", x -> x.soonest(1, 1), 21);
         Due.keeps(() -> worker(EIGHTHS, 1, 254, 1, 254, 1, 0), "soonest(1, 0)", x -> x.soonest(1, 0), 16);
+    }
+
+    /** The day on which works, done in this order, are all done; NONE if they never are. */
+    static int endOf(WeekWheels x, int day, int[] order) {
+        int next = day;
+        for (int work : order) {
+            int end = next > Due.LAST ? WeekWheels.NONE : x.done(work, next);
+            if (end == WeekWheels.NONE) {
+                return WeekWheels.NONE;
+            }
+            next = end + 1;
+        }
+        return next - 1;
+    }
+
+    /** Tries all orders from the first to the last; keeps in best the soonest end and the first such order. */
+    static void tryOrders(Due.Maker maker, int day, int[] order, int place, int[] best) {
+        if (place == order.length) {
+            int end = endOf(maker.make(), day, order);
+            if (end != WeekWheels.NONE && (best[0] == WeekWheels.NONE || end < best[0])) {
+                best[0] = end;
+                best[1] = 0;
+                for (int work : order) {
+                    best[1] = 10 * best[1] + work;
+                }
+            }
+            return;
+        }
+        for (int work = 0; work < order.length; work++) {
+            boolean isNew = true;
+            for (int i = 0; i < place; i++) {
+                isNew &= order[i] != work;
+            }
+            if (isNew) {
+                order[place] = work;
+                tryOrders(maker, day, order, place + 1, best);
+            }
+        }
+    }
+
+    static void soonestOfAllOrders(int works, int day, Due.Maker maker) {
+        int[] best = {WeekWheels.NONE, WeekWheels.NONE};
+        tryOrders(maker, day, new int[works], 0, best);
+        Due.keeps(maker, "soonest(" + day + ", 0)", x -> x.soonest(day, 0), best[0]);
+        Due.keeps(maker, "soonest(" + day + ", 1)", x -> x.soonest(day, 1), best[1]);
+    }
+
+    // Promise 34, by Terms: "SOONEST: the order by which the last is DONE soonest, of these the first (WORK by WORK by number)."
+    static void soonestOfAllOrdersTheFirst() {
+        String town = "law 5 4;law 7 3;law 4 1;law 6 0;other 2 0;still 9;still 20;still 21;";
+        for (int day : new int[] {0, 1, 2, 3, 8, 9, 19, 20, 22, Due.LAST - 40, Due.LAST - 12, Due.LAST - 11, Due.LAST - 10}) {
+            soonestOfAllOrders(3, day, () -> worker(town, 3, 1, 2, 6, 4, 12));
+            soonestOfAllOrders(4, day, () -> worker(town, 2, 15, 1, 1, 3, 10, 1, 4));
+        }
+        for (int day : new int[] {0, 7, 16, 21, Due.LAST - 17}) {
+            soonestOfAllOrders(5, day, () -> worker(town, 1, 15, 3, 9, 2, 6, 1, 3, 2, 8));
+        }
+        for (int day : new int[] {0, 5, 10, Due.LAST - 600}) {
+            soonestOfAllOrders(4, day, () -> worker("law 2 0;law 3 1;law 24 7;still 70;", 60, 1, 60, 3, 59, 6, 30, 5));
+            soonestOfAllOrders(3, day, () -> worker("law 2 0;law 3 1;law 24 7;law 24 8;still 70;", 33, 13, 40, 7, 1, 9));
+        }
     }
 
     // Promise 34, by Terms: "each from the DAY behind the one DONE"
@@ -358,8 +425,8 @@ public final class WeekWheelsWorkEdges {
         x.turn(0, 0, 1);
         x.forget();
         x.rest();
-        x.seen(11, 0, true);
-        x.did(9, 11, 4, true);
+        x.seen(0, 3, true);
+        x.did(0, 0, 4, true);
         x.work(1, 0);
         Due.due(x, "restore()", WeekWheels::restore, 0);
         Due.due(x, "sums(0)", y -> y.sums(0), 20);
