@@ -121,7 +121,7 @@ final class Due {
         return "refused " + x.status(0) + " " + x.status(1) + " " + x.status(2) + " ";
     }
 
-    /** What later calls show of an object, its images too: by no more than some 450 calls, so only once of an object. */
+    /** What later calls show of an object, its images too: by no more than some 350 calls, so only once of an object. */
     static String shown(WeekWheels x) {
         StringBuilder all = new StringBuilder("fault " + x.fault() + " bytes " + x.sums(4) + " told");
         for (int what = 0; what < 6; what++) {

@@ -441,6 +441,8 @@ public final class WeekWheelsDayEdges {
             Due.due(x, "row(0, W) of W " + w + ": there is none", y -> y.row(0, w), -1);
             Due.due(x, "row(W less 1, 1) of W " + w, y -> y.row(w - 1, 1), w);
         }
+        Due.keeps(() -> Due.town("law 4 3;law 17 0;"), "row(0, 4): there is none in 68 days", x -> x.row(0, 4), -1);
+        Due.keeps(() -> Due.town("law 4 3;law 17 0;"), "row(61, 3)", x -> x.row(61, 3), 64);
         Due.keeps(() -> Due.town("law 5 2;"), "row(3, 4): over the end of a turn", x -> x.row(3, 4), 3);
         Due.keeps(() -> Due.town("law 5 2;"), "row(4, 4): the next one", x -> x.row(4, 4), 8);
         Due.keeps(() -> Due.town("other 2 0;"), "row(0, 99): the other town is none of it", x -> x.row(0, 99), 0);

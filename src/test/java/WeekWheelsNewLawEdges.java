@@ -58,6 +58,8 @@ public final class WeekWheelsNewLawEdges {
         Due.keeps(() -> Due.town("law 7 2;law 11 8;law 5 2;"), "meeting(7)", x -> x.meeting(7), 502);
         Due.keeps(() -> Due.town("law 7 5;law 21 4;"), "meeting(3)", x -> x.meeting(3), 705);
         Due.keeps(() -> Due.town("law 17 5;law 19 14;"), "meeting(3)", x -> x.meeting(3), 1705);
+        Due.keeps(() -> Due.town("law 5 1;law 9 1;"), "meeting(3): (3, 1) meets less often", x -> x.meeting(3), 501);
+        Due.keeps(() -> Due.town("law 15 2;law 7 2;"), "meeting(3): (3, 2) meets less often", x -> x.meeting(3), 702);
         Due.keeps(() -> Due.town("law 17 11;law 13 8;"), "meeting(3)", x -> x.meeting(3), 1308);
         // days behind the turn's end would make others the most
         Due.keeps(() -> Due.town("law 16 1;law 20 6;"), "meeting(3), a turn of 80", x -> x.meeting(3), 201);

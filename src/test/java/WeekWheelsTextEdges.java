@@ -341,6 +341,9 @@ public final class WeekWheelsTextEdges {
         Due.due(x, "next(99975)", y -> y.next(99_975), 199_949);
         Due.due(x, "a wish that is too great", y -> Due.ask(y, "day3 0 or day17 0 or day37 0 or day53 0"), -6);
         Due.due(x, "next(0), the older wish stays", y -> y.next(0), 99_974);
+        Due.due(x, "an older wish's A", y -> Due.ask(y, "day2 0 or day3 0 or day97 0"), 1);
+        Due.due(x, "is none of the next one's", y -> Due.ask(y, "day89 0 or day83 0"), 1);
+        Due.due(x, "nor is that of a wish that was too great", y -> Due.ask(y, "day97 0 or day79 0"), 1);
     }
 
     // Promise 4, by Terms: "A WISH is of up to 200 bytes: C, at the end nothing more."

@@ -88,6 +88,25 @@ public final class WeekWheelsWorkEdges {
         Due.keeps(() -> worker("law 2 0;other 2 1;", 1, 1, 1, 0), "soonest(0, 1): nor in another order", x -> x.soonest(0, 1), 10);
     }
 
+    // Promise 32: "The DAY on which a WORK is DONE, begun on a DAY; NONE: never (to the last DAY)."
+    static void doneOnTheLastDayOfATurnMadeLongerByStills() {
+        // of 70 days only the last is free, and three stills come ahead of it
+        String town = "law2 0;law5 0;law5 1;law5 2;law5 3;law7 0;law7 1;law7 2;law7 3;law7 4;law7 5;";
+        for (int last = 2; last <= 68; last++) {
+            String stills = "still 0;still 1;still " + last + ";";
+            Due.keeps(() -> worker(town + stills, 1, 2047), "done(0, 0), " + stills, x -> x.done(0, 0), 72);
+            Due.keeps(() -> worker(town + stills, 2, 2047), "done(0, 0) of two, " + stills, x -> x.done(0, 0), 142);
+            Due.keeps(() -> worker(town + stills, 1, 2047), "market, " + stills, x -> x.market(0, 2047, 0), 72);
+            Due.keeps(() -> worker(town + stills, 1, 2047), "row, " + stills, x -> x.row(0, 1), 72);
+        }
+        Due.keeps(() -> worker(town + "law7 6;", 1, 4095), "done(0, 0): none is free", x -> x.done(0, 0), -1);
+        Due.keeps(() -> worker(town + "law7 6;", 1, 2047), "done(0, 0): barred by the first eleven", x -> x.done(0, 0), 69);
+        Due.keeps(() -> worker(town, 1, 2047), "begun(0, 0)", x -> x.begun(0, 0), 69);
+        Due.keeps(() -> worker(town, 1, 2047), "begun(0, 70)", x -> x.begun(0, 70), 139);
+        // within 70 days all are barred then, so the last of them is best
+        Due.keeps(() -> worker(town + "still 0;still 1;still 7;", 1, 2047), "begun(0, 0)", x -> x.begun(0, 0), 69);
+    }
+
     // Promise 33: "BEGUN best; NONE: it never is DONE."
     static void begunNever() {
         Due.keeps(() -> worker("law 2 0;law 2 1;", 1, 3), "begun(0, 0): always barred", x -> x.begun(0, 0), -1);
@@ -409,7 +428,7 @@ public final class WeekWheelsWorkEdges {
     static void imageOfAllThatMayBe() {
         WeekWheels x = Due.town("law2 0;".repeat(11) + "law24 0;" + "house;".repeat(10));
         for (int i = 0; i < 20; i++) {
-            x.seen(11, i % 10, false);
+            x.seen(i < 10 ? 11 : 0, i % 10, i >= 10 && i % 2 == 0);
             x.did(9, 11, i, false);
         }
         for (int work = 0; work < 8; work++) {
@@ -418,7 +437,6 @@ public final class WeekWheelsWorkEdges {
         x.turn(9, 11, 23);
         x.turn(0, 0, 1);
         Due.due(x, "image()", WeekWheels::image, 1);
-        int fits = x.fits(0);
         int slipped = x.slipped(9, 0);
         int soonest = x.soonest(0, 0);
         x.turn(9, 11, 5);
@@ -434,7 +452,7 @@ public final class WeekWheelsWorkEdges {
         Due.due(x, "sums(2)", y -> y.sums(2), 8);
         Due.due(x, "slip(9, 11)", y -> y.slip(9, 11), 23);
         Due.due(x, "slip(0, 0)", y -> y.slip(0, 0), 1);
-        Due.due(x, "fits(0)", y -> y.fits(0), fits);
+        Due.due(x, "fits(0): even days from 10 to 22", y -> y.fits(0), 7);
         Due.due(x, "slipped(9, 0)", y -> y.slipped(9, 0), slipped);
         Due.due(x, "soonest(0, 0)", y -> y.soonest(0, 0), soonest);
         Due.due(x, "done(7, 0): 53 days barred by every other", y -> y.done(7, 0), 105);
