@@ -943,7 +943,7 @@ public final class WeekWheels {
             for (int i = 0; i < stills; i++) {
                 last = still[i] >= day ? Math.min(last, still[i]) : last;
             }
-            return Math.max(last - day + 1, 1);
+            return last - day + 1;
         }
 
         /** How many days up to one, 64 at most, have no still between them. */
@@ -952,7 +952,7 @@ public final class WeekWheels {
             for (int i = 0; i < stills; i++) {
                 first = still[i] < day ? Math.max(first, still[i] + 1) : first;
             }
-            return Math.max(day - first + 1, 1);
+            return day - first + 1;
         }
 
         private void read(Tape text) {
@@ -1183,7 +1183,7 @@ public final class WeekWheels {
             int missing = n;
             int patience = patience();
             int length = 1;
-            for (int day = from; day <= LAST_DAY && patience > 0; day += length) {
+            for (int day = from; day <= LAST_DAY && patience > 0; day += Math.max(length, 1)) {
                 length = calendar.stretchFrom(day);
                 long days = daysFrom(calendar.turnsOn(day)) & low(length);
                 int there = Long.bitCount(days);
@@ -1207,7 +1207,7 @@ public final class WeekWheels {
         private int walkOn() {
             int length = 1;
             int patience = patience();
-            for (; walkDays == 0 && walkEnd <= LAST_DAY && patience > 0; patience -= length) {
+            for (; walkDays == 0 && walkEnd <= LAST_DAY && patience > 0; patience -= Math.max(length, 1)) {
                 length = calendar.stretchFrom(walkEnd);
                 walkDay = walkEnd;
                 walkDays = daysFrom(calendar.turnsOn(walkDay)) & low(length);
@@ -1225,7 +1225,7 @@ public final class WeekWheels {
         private int nthBack(int to, int n, int bound) {
             int missing = n;
             int length = 1;
-            for (int day = to; day >= bound; day -= length) {
+            for (int day = to; day >= bound; day -= Math.max(length, 1)) {
                 length = calendar.stretchTo(day);
                 int first = day - length + 1;
                 long days = daysFrom(calendar.turnsOn(first)) & low(length);
@@ -1244,7 +1244,7 @@ public final class WeekWheels {
             int end = Math.min(Math.max(from, calendar.settledDay()) + turn + many, LAST_DAY);
             int row = 0;
             int length = 1;
-            for (int day = from; day <= end; day += length) {
+            for (int day = from; day <= end; day += Math.max(length, 1)) {
                 length = calendar.stretchFrom(day);
                 long days = daysFrom(calendar.turnsOn(day)) & low(length);
                 int before = row;
@@ -1403,7 +1403,7 @@ public final class WeekWheels {
         private int firstFrom(int from) {
             int end = Math.min(Math.max(from, calendar.settledDay()) + turn, LAST_DAY);
             int length = 1;
-            for (int day = from; day <= end; day += length) {
+            for (int day = from; day <= end; day += Math.max(length, 1)) {
                 length = calendar.stretchFrom(day);
                 long days = daysFrom(day, calendar.turnsOn(day)) & low(length);
                 if (days != 0) {
